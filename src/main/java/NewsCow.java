@@ -137,7 +137,7 @@ public final class NewsCow {
             return FULL;
         }
         dairy.remember();
-        dairy.hear(taster, mix, is);
+        dairy.hear(dairy.agreeing(dairy.kinds[taster], dairy.fines[taster], mix, is));
         return dairy.now.mayBe;
     }
 
@@ -589,14 +589,17 @@ public final class NewsCow {
             return is == 1 ? noticing : allCows() & ~noticing;
         }
 
-        void hear(int taster, int mix, int is) {
-            now.mayBe &= agreeing(kinds[taster], fines[taster], mix, is);
+        /** An answer that would be so by some cows alone. */
+        void hear(int agreeing) {
+            now.mayBe &= agreeing;
             now.day++;
         }
 
+        /** Of THE BEARER, who is told: whether he notices it. */
         int swallow(int taster, int mix) {
-            int is = noticedBy(taster, mix) >> now.bearer & 1;
-            hear(taster, mix, is);
+            int noticing = noticedBy(taster, mix);
+            int is = noticing >> now.bearer & 1;
+            hear(is == 1 ? noticing : ~noticing);
             return is;
         }
 
@@ -952,21 +955,20 @@ public final class NewsCow {
         }
 
         int fitting(Dairy dairy, int kind, int fine) {
-            compare(dairy, kind, fine);
             int fit = dairy.allCows();
             for (int p = 0; p < pairs; p++) {
-                fit &= agreed[p];
+                fit &= dairy.agreeing(kind, fine, mixes[p], answers[p]);
             }
             return fit;
         }
 
         int fittingButOne(Dairy dairy, int kind, int fine) {
-            compare(dairy, kind, fine);
             int fit = dairy.allCows();
             int butOne = 0;
             for (int p = 0; p < pairs; p++) {
-                butOne = butOne & agreed[p] | fit & ~agreed[p];
-                fit &= agreed[p];
+                int agreeing = dairy.agreeing(kind, fine, mixes[p], answers[p]);
+                butOne = butOne & agreeing | fit & ~agreeing;
+                fit &= agreeing;
             }
             return fit | butOne;
         }

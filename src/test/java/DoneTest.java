@@ -9,6 +9,7 @@ public final class DoneTest {
         forget();
         bear();
         driftByHand();
+        driftByDrinks();
         driftWithout();
         driftWrong();
         undoOfEach();
@@ -159,6 +160,24 @@ public final class DoneTest {
         due("17: the draw", x.seed(1103527590), 1103527590);
         due("15: drift(2)", x.drift(2), 4);
         due("17: the draw", x.seed(1), 662824084);
+    }
+
+    /** Each drift is what the document reckons, drunk on a herd of the same kind. */
+    private static void driftByDrinks() {
+        NewsCow drifting = Check.of("1234!567;p1,d3,s9");
+        NewsCow drinking = Check.of("1234!567;p1,d3,s9");
+        long draw = 1;
+        for (int time = 0; time < 100; time++) {
+            draw = (draw * 1103515245 + 12345) % (1L << 31);
+            int mix = (int) (draw / 128 % 128);
+            if (mix != 0) {
+                drinking.drink((int) (draw / 65536 % 3), mix);
+            }
+            due("15: drift " + time, drifting.drift(1), drinking.count(3));
+            due("15: the day", drifting.count(2), drinking.count(2));
+            due("15: forget", drifting.forget(), drinking.forget());
+        }
+        due("17: the draw", drifting.seed(1), draw);
     }
 
     private static void driftWithout() {

@@ -198,6 +198,10 @@ public final class ForetoldTest {
         fraction("23: surely", x.likely(2, 0), x.likely(2, 1), 1, 1);
         x.answer(0, 4, 0);
         fraction("23: none", x.likely(2, 0), x.likely(2, 1), 0, 1);
+        x = Check.of("1");
+        fraction("23: one cow of one", x.likely(0, 0), x.likely(0, 1), 1, 1);
+        x = Check.of("1212");
+        fraction("23: one of six", x.likely(2, 0), x.likely(2, 1), 1, 6);
         due("23: likely(4, 0)", x.likely(4, 0), NewsCow.BAD);
         due("23: likely(-1, 0)", x.likely(-1, 0), NewsCow.BAD);
         due("23: likely(0, 2)", x.likely(0, 2), NewsCow.BAD);

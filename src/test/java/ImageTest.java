@@ -5,6 +5,7 @@ public final class ImageTest {
     public static void main(String[] args) {
         none();
         allIsKept();
+        allThatMayBeUndone();
         sheetsAndTapeAreNot();
         imageStandsByItself();
         imageOfNothing();
@@ -50,10 +51,31 @@ public final class ImageTest {
         due("28: the bearer", x.count(4), 1);
         due("28: and what was before it", x.undo(), 0);
         due("28: it may be all", x.count(3), 7);
-        Check.herd(x, "5");
+        Check.herd(x, "5;o7,s8");
         due("28: a herd leaves it", x.restore(), 1);
         due("28: cows", x.count(0), 3);
+        due("28: kind", x.at(0, 0), 0);
+        due("28: fine", x.at(0, 1), 1);
+        due("28: kind", x.at(1, 0), 1);
         due("28: fine", x.at(1, 1), 2);
+    }
+
+    private static void allThatMayBeUndone() {
+        NewsCow x = Check.of("12345678;p1");
+        for (int c = 0; c < 8; c++) {
+            x.bear(c);
+        }
+        x.image();
+        for (int c = 0; c < 8; c++) {
+            x.bear(c == 7 ? NewsCow.NONE : c);
+        }
+        x.restore();
+        for (int c = 6; c >= 0; c--) {
+            due("28: undo", x.undo(), c + 1);
+            due("28: the bearer", x.count(4), c);
+        }
+        due("28: undo", x.undo(), 0);
+        due("28: no bearer", x.count(4), NewsCow.NONE);
     }
 
     private static void sheetsAndTapeAreNot() {
