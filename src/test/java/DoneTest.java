@@ -73,10 +73,10 @@ public final class DoneTest {
     /** A herd of eight with a bearer, some days short of the last one. */
     private static NewsCow lateHerd(int day) {
         NewsCow x = Check.of("12345678!;p1");
-        for (int k = 0; k < 400 && x.count(2) + 40 <= day; k++) {
+        for (int k = 0; k < day / 40; k++) {
             x.drift(40);
         }
-        for (int k = 0; k < 40 && x.count(2) < day; k++) {
+        for (int rest = day - x.count(2); rest > 0; rest--) {
             x.drink(0, 1);
         }
         due("day", x.count(2), day);

@@ -4,7 +4,7 @@ import java.util.Arrays;
 import java.util.Comparator;
 import java.util.function.Supplier;
 
-/** Runs the tests of boundary cases: each is a method that is named by the number of its promise. */
+/** Runs tests, each a method that is named by the number of its promise. */
 final class Edges {
     static final int MAX = Integer.MAX_VALUE;
     static final int MIN = Integer.MIN_VALUE;
@@ -44,23 +44,26 @@ final class Edges {
         }
     }
 
-    static void end() {
+    static void end(String name) {
         for (int promise = 1; promise <= PROMISES; promise++) {
-            test = "promise " + promise;
             if (testsOfPromise[promise] == 0) {
-                fail("has no test of a boundary case");
+                fail("promise " + promise, "has no test");
             }
         }
-        System.out.println("EdgesTest: " + tests + " tests, " + asked + " answers, " + wrong + " of them not as due");
+        System.out.println(name + ": " + tests + " tests, " + asked + " answers, " + wrong + " of them not as due");
         if (wrong != 0) {
             System.exit(1);
         }
     }
 
     private static void fail(String why) {
+        fail(test, why);
+    }
+
+    static void fail(String where, String why) {
         asked++;
         wrong++;
-        System.out.println(test + ": " + why);
+        System.out.println(where + ": " + why);
     }
 
     static void due(String call, long got, long want) {

@@ -17,6 +17,7 @@ final class Edges01To10 {
 
     // ---- 1 a new object
 
+    @Says("No herd.")
     static void promise01NoCowsNoTasters() {
         Edges.counts(new NewsCow(), 0, 0, 0, 0, NewsCow.NONE, 0, 0, 0);
         due("of(0)", new NewsCow().of(0), NewsCow.BAD);
@@ -70,18 +71,21 @@ final class Edges01To10 {
         due("of(1)", x.of(1), 9);
     }
 
+    @Says("BAD;")
     static void promise02MilkBelowOneIsBad() {
         Edges.bad("cow(0)", Edges::rich, x -> x.cow(0));
         Edges.bad("cow(-1)", Edges::rich, x -> x.cow(-1));
         Edges.bad("cow(MIN)", Edges::rich, x -> x.cow(MIN));
     }
 
+    @Says("BAD;")
     static void promise02MilkAboveNineIsBad() {
         Edges.bad("cow(10)", Edges::rich, x -> x.cow(10));
         Edges.bad("cow(MAX)", Edges::rich, x -> x.cow(MAX));
         Edges.bad("cow(10), no herd", NewsCow::new, x -> x.cow(10));
     }
 
+    @Says("FULL: 8.")
     static void promise02TheEighthHoldsTheNinthIsFull() {
         NewsCow x = Check.of("1234567");
         due("the eighth", x.cow(8), 7);
@@ -96,6 +100,7 @@ final class Edges01To10 {
         Edges.bad("cow(10)", Edges::full, x -> x.cow(10));
     }
 
+    @Says("(it MAY BE all then).")
     static void promise02ItMayBeAllThen() {
         NewsCow x = threeCows();
         x.answer(0, 1, 1);
@@ -108,6 +113,7 @@ final class Edges01To10 {
         due("it may be", x.count(3), 31);
     }
 
+    @Says(terms = "a HERD, a new cow, TASTER leave nothing to be UNDONE.")
     static void promise02ANewCowLeavesNothingToBeUndone() {
         NewsCow x = threeCows();
         x.bear(1);
@@ -146,6 +152,7 @@ final class Edges01To10 {
         return x;
     }
 
+    @Says("BAD;")
     static void promise03KindBelowZeroOrAboveFourIsBad() {
         Edges.bad("taster(-1, 1)", Edges01To10::twoTasters, x -> x.taster(-1, 1));
         Edges.bad("taster(5, 1)", Edges01To10::twoTasters, x -> x.taster(5, 1));
@@ -153,6 +160,7 @@ final class Edges01To10 {
         Edges.bad("taster(MAX, 1)", Edges01To10::twoTasters, x -> x.taster(MAX, 1));
     }
 
+    @Says("BAD;")
     static void promise03FineBelowOneOrAboveNineIsBad() {
         Edges.bad("taster(0, 0)", Edges01To10::twoTasters, x -> x.taster(0, 0));
         Edges.bad("taster(0, -1)", Edges01To10::twoTasters, x -> x.taster(0, -1));
@@ -161,6 +169,7 @@ final class Edges01To10 {
         Edges.bad("taster(4, MIN)", Edges01To10::twoTasters, x -> x.taster(4, MIN));
     }
 
+    @Says("FULL: 4.")
     static void promise03TheFourthHoldsTheFifthIsFull() {
         NewsCow x = Check.of("1;p1,d2,f3");
         due("the fourth", x.taster(3, 4), 3);
@@ -176,6 +185,7 @@ final class Edges01To10 {
         Edges.bad("taster(0, 10)", Edges::full, x -> x.taster(0, 10));
     }
 
+    @Says(terms = "a HERD, a new cow, TASTER leave nothing to be UNDONE.")
     static void promise03ANewTasterLeavesNothingToBeUndone() {
         NewsCow x = threeCows();
         x.bear(2);
@@ -197,12 +207,14 @@ final class Edges01To10 {
         due("of(2)", x.of(2), 1);
     }
 
+    @Says("BAD.")
     static void promise04MilkBelowOneOrAboveNineIsBad() {
         for (int v : new int[] {0, -1, 10, MIN, MAX}) {
             Edges.bad("milk(1, " + v + ")", Edges::rich, x -> x.milk(1, v));
         }
     }
 
+    @Says("BAD.")
     static void promise04NoSuchCowIsBad() {
         for (int cow : new int[] {-1, 3, MIN, MAX, NewsCow.NONE}) {
             Edges.bad("milk(" + cow + ", 5)", Edges::rich, x -> x.milk(cow, 5));
@@ -223,12 +235,14 @@ final class Edges01To10 {
 
     // ---- 5 at
 
+    @Says("BAD.")
     static void promise05WhatBelowZeroOrAboveOneIsBad() {
         for (int what : new int[] {-1, 2, MIN, MAX}) {
             Edges.bad("at(0, " + what + ")", Edges::rich, x -> x.at(0, what));
         }
     }
 
+    @Says("BAD.")
     static void promise05NoSuchTasterIsBad() {
         for (int taster : new int[] {-1, 4, MIN, MAX}) {
             Edges.bad("at(" + taster + ", 0)", Edges::full, x -> x.at(taster, 0));
@@ -247,6 +261,7 @@ final class Edges01To10 {
 
     // ---- 6 of
 
+    @Says("BAD.")
     static void promise06NoSuchCowIsBad() {
         for (int cow : new int[] {-1, 3, MIN, MAX}) {
             Edges.bad("of(" + cow + ")", Edges::rich, x -> x.of(cow));
@@ -272,12 +287,14 @@ final class Edges01To10 {
         return set;
     }
 
+    @Says("BAD.")
     static void promise07AMixHasOneCowAtLeast() {
         Edges.bad("notices(0, 0, 0)", Edges::rich, x -> x.notices(0, 0, 0));
         Edges.bad("notices(2, 0, 0)", Edges::full, x -> x.notices(2, 0, 0));
         due("the first", Edges.rich().notices(0, 1, 0), 1);
     }
 
+    @Says("BAD.")
     static void promise07AMixIsOfCowsThatThereAre() {
         for (int mix : new int[] {8, 9, 15, -1, MIN, MAX}) {
             Edges.bad("notices(0, " + mix + ", 0)", Edges::rich, x -> x.notices(0, mix, 0));
@@ -288,6 +305,7 @@ final class Edges01To10 {
         due("the last mix of eight", Edges.full().notices(0, 255, 7), 1);
     }
 
+    @Says("BAD.")
     static void promise07NoSuchTasterOrCowIsBad() {
         for (int number : new int[] {-1, 4, MIN, MAX}) {
             Edges.bad("notices(" + number + ", 1, 0)", Edges::rich, x -> x.notices(number, 1, 0));
@@ -359,6 +377,7 @@ final class Edges01To10 {
         due("type(126)", x.type(126), 2);
     }
 
+    @Says("BAD: not 32 .. 126;")
     static void promise08LettersBelow32OrAbove126AreBad() {
         for (int letter : new int[] {31, 127, 0, -1, -32, 128, 256 + '1', 65536 + '1', MIN, MAX}) {
             Edges.bad("type(" + letter + ")", Edges::rich, x -> x.type(letter));
@@ -371,6 +390,7 @@ final class Edges01To10 {
         return x;
     }
 
+    @Says("FULL: 40.")
     static void promise08TheFortiethHoldsTheNextIsFull() {
         NewsCow x = new NewsCow();
         Check.type(x, FORTY_BLANKS.substring(1));
@@ -512,6 +532,7 @@ final class Edges01To10 {
         fault("1~", 1);
     }
 
+    @Says(terms = "blanks count for nothing.")
     static void promise09BlanksCountForNothing() {
         herd(" 1 ", 1, 0, NewsCow.NONE);
         herd("1 !", 1, 0, 0);
@@ -521,6 +542,7 @@ final class Edges01To10 {
         herd("5" + FORTY_BLANKS.substring(1), 1, 0, NewsCow.NONE);
     }
 
+    @Says(terms = "FAULTS: -20 less the place of the first letter (behind blanks) that can't stand there")
     static void promise09ThePlaceOfAFaultIsBehindBlanks() {
         fault("  0", 2);
         fault("1  0", 3);
@@ -530,6 +552,7 @@ final class Edges01To10 {
         fault(FORTY_BLANKS.substring(1) + "x", 39);
     }
 
+    @Says(terms = "(the end: how many there are);")
     static void promise09AtTheEndThePlaceIsHowManyThereAre() {
         fault(" ", 1);
         fault("1; ", 3);
@@ -573,6 +596,7 @@ final class Edges01To10 {
 
     // ---- 10 count
 
+    @Says("BAD.")
     static void promise10WhatBelowZeroOrAboveSevenIsBad() {
         for (int what : new int[] {-1, 8, MIN, MAX, NewsCow.NONE}) {
             Edges.bad("count(" + what + ")", Edges::rich, x -> x.count(what));

@@ -31,6 +31,7 @@ final class Edges11To17 {
 
     // ---- 11 answer
 
+    @Says("BAD;")
     static void promise11AnAnswerIsOneOrZero() {
         due("answer(0, 1, 1)", threeCows().answer(0, 1, 1), 1);
         due("answer(0, 1, 0)", threeCows().answer(0, 1, 0), 6);
@@ -39,6 +40,7 @@ final class Edges11To17 {
         }
     }
 
+    @Says("BAD;")
     static void promise11AMixOfCowsThatThereAreOneAtLeast() {
         due("the first", threeCows().answer(0, 1, 1), 1);
         due("the last", threeCows().answer(0, 7, 1), 7);
@@ -48,6 +50,7 @@ final class Edges11To17 {
         Edges.bad("answer(0, 256, 1)", Edges::full, x -> x.answer(0, 256, 1));
     }
 
+    @Says("BAD;")
     static void promise11NoSuchTasterIsBad() {
         for (int taster : new int[] {-1, 4, MIN, MAX}) {
             Edges.bad("answer(" + taster + ", 1, 1)", Edges::rich, x -> x.answer(taster, 1, 1));
@@ -84,6 +87,7 @@ final class Edges11To17 {
         due("sleepy on day 2", x.answer(1, 2, 1), 2);
     }
 
+    @Says("FULL: the DAY would be above 9999.")
     static void promise11Day9999HoldsTheNextIsFull() {
         NewsCow x = Edges.onDay(9998);
         due("to day 9999", x.answer(0, 255, 1), 128);
@@ -111,6 +115,7 @@ final class Edges11To17 {
 
     // ---- 12 drink
 
+    @Says("BAD;")
     static void promise12AMixOfCowsThatThereAreOneAtLeast() {
         due("the first", Edges.rich().drink(0, 1), 1);
         due("the last", Edges.rich().drink(0, 7), 1);
@@ -120,6 +125,7 @@ final class Edges11To17 {
         Edges.bad("drink(0, 256)", Edges::full, x -> x.drink(0, 256));
     }
 
+    @Says("BAD;")
     static void promise12NoSuchTasterIsBad() {
         for (int taster : new int[] {-1, 4, MIN, MAX}) {
             Edges.bad("drink(" + taster + ", 1)", Edges::rich, x -> x.drink(taster, 1));
@@ -127,6 +133,7 @@ final class Edges11To17 {
         Edges.bad("drink(0, 1), no herd", NewsCow::new, x -> x.drink(0, 1));
     }
 
+    @Says("NOT: THE BEARER is not told;")
     static void promise12NotIfTheBearerIsNotTold() {
         Edges.refused("drink(0, 1)", Edges11To17::withoutBearer, NewsCow.NOT, x -> x.drink(0, 1));
         Edges.refused("drink(0, 1)", Edges11To17::threeCows, NewsCow.NOT, x -> x.drink(0, 1));
@@ -139,6 +146,7 @@ final class Edges11To17 {
         Edges.bad("drink(-1, 1)", Edges11To17::withoutBearer, x -> x.drink(-1, 1));
     }
 
+    @Says("FULL (ahead of NOT): likewise.")
     static void promise12Day9999HoldsTheNextIsFull() {
         NewsCow x = Edges.onDay(9998);
         due("to day 9999", x.drink(0, 128), 1);
@@ -148,6 +156,7 @@ final class Edges11To17 {
         Edges.refused("drink(0, 1)", LAST_DAY, NewsCow.FULL, y -> y.drink(0, 1));
     }
 
+    @Says("FULL (ahead of NOT): likewise.")
     static void promise12FullAheadOfNot() {
         Edges.refused("drink(0, 1)", LAST_DAY_WITHOUT_BEARER, NewsCow.FULL, x -> x.drink(0, 1));
     }
@@ -190,6 +199,7 @@ final class Edges11To17 {
 
     // ---- 13 forget
 
+    @Says("NOT: it MAY BE all.")
     static void promise13NotIfItMayBeAll() {
         Edges.refused("forget()", Edges11To17::threeCows, NewsCow.NOT, x -> x.forget());
         Edges.refused("forget(), no herd", NewsCow::new, NewsCow.NOT, x -> x.forget());
@@ -231,6 +241,7 @@ final class Edges11To17 {
         due("three may be undone", x.count(7), 3);
     }
 
+    @Says("BAD;")
     static void promise14NoSuchCowIsBad() {
         for (int cow : new int[] {-1, -2, -3, -5, 3, MIN, MAX}) {
             Edges.bad("bear(" + cow + ")", Edges::rich, x -> x.bear(cow));
@@ -239,6 +250,7 @@ final class Edges11To17 {
         Edges.bad("bear(0), no herd", NewsCow::new, x -> x.bear(0));
     }
 
+    @Says("NOT: it is so.")
     static void promise14NotIfItIsSo() {
         Edges.refused("bear(0)", Edges::rich, NewsCow.NOT, x -> x.bear(0));
         Edges.refused("bear(NONE)", Edges11To17::withoutBearer, NewsCow.NOT, x -> x.bear(NONE));
@@ -267,6 +279,7 @@ final class Edges11To17 {
         due("drift(40)", x.drift(40), 0);
     }
 
+    @Says("BAD;")
     static void promise15BelowOneOrAboveFortyIsBad() {
         for (int n : new int[] {0, -1, 41, MIN, MAX}) {
             Edges.bad("drift(" + n + ")", Edges::rich, x -> x.drift(n));
@@ -274,6 +287,7 @@ final class Edges11To17 {
         }
     }
 
+    @Says("FULL: the DAY might be above 9999 (if all are drunk).")
     static void promise15Day9999MayComeOneMoreMayNot() {
         due("40 from day 9959", Edges.onDay(9959).drift(40), 128);
         Edges.refused("40 from day 9960", () -> Edges.onDay(9960), NewsCow.FULL, x -> x.drift(40));
@@ -283,6 +297,7 @@ final class Edges11To17 {
         Edges.refused("1 from day 9999", LAST_DAY, NewsCow.FULL, x -> x.drift(1));
     }
 
+    @Says("FULL: the DAY might be above 9999 (if all are drunk).")
     static void promise15FullThoughNothingWouldBeDrunk() {
         Edges.refused("drift(1)", LAST_DAY_WITHOUT_BEARER, NewsCow.FULL, x -> x.drift(1));
         // seed 9859 becomes 404652032, by 128 is 3161344, left over by 256 is 0: no mix
@@ -388,6 +403,7 @@ final class Edges11To17 {
 
     // ---- 16 undo
 
+    @Says("NONE: none is known.")
     static void promise16NoneIfNoneIsKnown() {
         Edges.refused("no herd", NewsCow::new, NONE, x -> x.undo());
         Edges.refused("a herd", () -> {
@@ -402,6 +418,7 @@ final class Edges11To17 {
         }, NONE, x -> x.undo());
     }
 
+    @Says(terms = "(8 are known, older ones lost):")
     static void promise16EightAreKnownTheNinthIsLost() {
         NewsCow x = Check.of("12345678");
         for (int c = 0; c < 7; c++) {
@@ -420,6 +437,7 @@ final class Edges11To17 {
         due("the first is not undone", x.count(4), 0);
     }
 
+    @Says(terms = "(8 are known, older ones lost):")
     static void promise16TheOldestIsLostTimeAndAgain() {
         NewsCow x = Check.of("12345678");
         for (int k = 0; k < 29; k++) {
@@ -494,6 +512,7 @@ final class Edges11To17 {
         due("seed(1)", x.seed(1), MAX);
     }
 
+    @Says("BAD: below 0.")
     static void promise17BelowZeroIsBad() {
         Edges.bad("seed(-1)", Edges::rich, x -> x.seed(-1));
         Edges.bad("seed(MIN)", Edges::rich, x -> x.seed(MIN));

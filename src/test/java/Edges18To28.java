@@ -50,6 +50,7 @@ final class Edges18To28 {
         due("one cow", oneCow().tells(0, 1), 1);
     }
 
+    @Says("BAD.")
     static void promise18NoSuchMixOrTasterIsBad() {
         for (int mix : NO_MIXES) {
             Edges.bad("tells(0, " + mix + ")", Edges::rich, x -> x.tells(0, mix));
@@ -122,6 +123,7 @@ final class Edges18To28 {
         due("one of eight", x.fewest(2), 0);
     }
 
+    @Says("BAD.")
     static void promise19NoSuchTasterIsBad() {
         for (int taster : NO_TASTERS) {
             Edges.bad("fewest(" + taster + ")", Edges::rich, x -> x.fewest(taster));
@@ -160,6 +162,7 @@ final class Edges18To28 {
         due("the last two", x.next(0), 64);
     }
 
+    @Says("BAD.")
     static void promise20NoSuchTasterIsBad() {
         for (int taster : NO_TASTERS) {
             Edges.bad("next(" + taster + ")", Edges::rich, x -> x.next(taster));
@@ -211,6 +214,7 @@ final class Edges18To28 {
         due("no second", x.once(0, 1), NONE);
     }
 
+    @Says("BAD: k below -1, too.")
     static void promise21KBelowMinusOneIsBad() {
         Edges.bad("once(0, -2)", Edges::rich, x -> x.once(0, -2));
         Edges.bad("once(0, MIN)", Edges::rich, x -> x.once(0, MIN));
@@ -222,6 +226,7 @@ final class Edges18To28 {
         Edges.bad("once(1, 5)", Edges18To28::oneCow, x -> x.once(1, 5));
     }
 
+    @Says("BAD: k below -1, too.")
     static void promise21NoSuchTasterIsBad() {
         for (int taster : NO_TASTERS) {
             Edges.bad("once(" + taster + ", -1)", Edges::rich, x -> x.once(taster, -1));
@@ -264,6 +269,7 @@ final class Edges18To28 {
         half("11111111;s9", 1, 8);
     }
 
+    @Says("BAD.")
     static void promise22WhatBelowZeroOrAboveOneIsBad() {
         for (int what : NO_PARTS) {
             Edges.bad("halves(0, " + what + ")", Edges::rich, x -> x.halves(0, what));
@@ -275,6 +281,7 @@ final class Edges18To28 {
         Edges.bad("halves(2, 0)", Edges18To28::mayBeNone, x -> x.halves(2, 0));
     }
 
+    @Says("BAD.")
     static void promise22NoSuchTasterIsBad() {
         for (int taster : NO_TASTERS) {
             Edges.bad("halves(" + taster + ", 0)", Edges::rich, x -> x.halves(taster, 0));
@@ -311,6 +318,7 @@ final class Edges18To28 {
         likely("9 of 64", Check.of("19999999"), 7, 9, 64);
     }
 
+    @Says("BAD.")
     static void promise23NoSuchCowOrWhatIsBad() {
         for (int cow : new int[] {-1, 3, MIN, MAX}) {
             Edges.bad("likely(" + cow + ", 0)", Edges::rich, x -> x.likely(cow, 0));
@@ -350,6 +358,7 @@ final class Edges18To28 {
         noticed("36 of 72", Check.of("99999999;p1"), 0, 15, 1, 2);
     }
 
+    @Says("BAD.")
     static void promise24NoSuchTasterMixOrWhatIsBad() {
         for (int taster : NO_TASTERS) {
             Edges.bad("noticed(" + taster + ", 1, 0)", Edges::rich, x -> x.noticed(taster, 1, 0));
@@ -380,6 +389,7 @@ final class Edges18To28 {
         Edges.fraction(name + ", the mean", made.get().single(-1), made.get().single(-2), above, below);
     }
 
+    @Says("(it MAY BE none: 0 by 1).")
     static void promise25ItMayBeNoneZeroByOne() {
         order("none", Edges18To28::mayBeNone, 0, 1);
         order("no herd", NewsCow::new, 0, 1);
@@ -416,6 +426,7 @@ final class Edges18To28 {
         due("no fifth", x.single(4), NONE);
     }
 
+    @Says("BAD: k below -2.")
     static void promise25KBelowMinusTwoIsBad() {
         Edges.bad("single(-3)", Edges::rich, x -> x.single(-3));
         Edges.bad("single(MIN)", Edges::rich, x -> x.single(MIN));
@@ -454,6 +465,7 @@ final class Edges18To28 {
         share("not she", mayBe(1), 2, 6, 3, 5);
     }
 
+    @Says("BAD.")
     static void promise26NoSuchCowMixOrWhatIsBad() {
         for (int cow : new int[] {-1, 3, MIN, MAX}) {
             Edges.bad("share(" + cow + ", 1, 0)", Edges::rich, x -> x.share(cow, 1, 0));
@@ -508,6 +520,7 @@ final class Edges18To28 {
         due("the bearer", x.count(4), 1);
     }
 
+    @Says("NONE: there is none.")
     static void promise28NoneIfThereIsNone() {
         Edges.refused("no herd", NewsCow::new, NONE, x -> x.restore());
         Edges.refused("a herd", Edges18To28::mayBeNone, NONE, x -> x.restore());

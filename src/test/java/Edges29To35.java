@@ -50,6 +50,7 @@ final class Edges29To35 {
         due("six, lies", fits(made.get(), 6, 1), 255);
     }
 
+    @Says("BAD;")
     static void promise29NoPairAndSevenAreBad() {
         for (int n : new int[] {0, -1, 7, MIN, MAX}) {
             Edges.bad("n " + n, Edges29To35::rows, x -> x.fits(0, 0, 2, 0, n, 0));
@@ -61,6 +62,7 @@ final class Edges29To35 {
         }, x -> x.fits(0, 0, 2, 0, 7, 0));
     }
 
+    @Says("BAD;")
     static void promise29NoSuchTasterSheetLaneOrWhatIsBad() {
         for (int number : NO_NUMBERS) {
             Edges.bad("taster " + number, Edges29To35::rows, x -> x.fits(number, 1, 3, 0, 1, 0));
@@ -83,18 +85,21 @@ final class Edges29To35 {
         Edges.bad("what ahead of NOT", Edges29To35::rows, x -> x.fits(0, 0, 2, 0, 1, 4));
     }
 
+    @Says("NULL;")
     static void promise29NullAheadOfCastAndIndex() {
         Edges.refused("NULL", Edges29To35::rows, NULL, x -> x.fits(0, 3, 2, 0, 1, 0));
         Edges.refused("NULL ahead of INDEX", Edges29To35::rows, NULL, x -> x.fits(0, 3, 2, -1, 6, 0));
         Edges.refused("NULL of any lane", Edges29To35::rows, NULL, x -> x.fits(0, 3, 0, 0, 1, 3));
     }
 
+    @Says("CAST;")
     static void promise29CastAheadOfIndexAndNot() {
         Edges.refused("CAST", Edges29To35::rows, CAST, x -> x.fits(0, 0, 3, 0, 1, 0));
         Edges.refused("CAST ahead of INDEX", Edges29To35::rows, CAST, x -> x.fits(0, 0, 3, 12, 1, 0));
         Edges.refused("CAST of an empty row", Edges29To35::rows, CAST, x -> x.fits(0, 2, 0, 0, 1, 0));
     }
 
+    @Says("INDEX;")
     static void promise29ToTheEndHoldsOneMoreIsIndex() {
         Supplier<NewsCow> made = () -> row("111;p1", 1, 1, 3, 1, 5, 1);
         due("all", made.get().fits(0, 0, 2, 0, 3, 0), 1);
@@ -123,6 +128,7 @@ final class Edges29To35 {
         Edges.refused("NOT", Edges29To35::rows, NOT, x -> x.fits(0, 0, 2, 0, 6, 0));
     }
 
+    @Says("NOT: a MIX is not of COWS that there are, 1 at least,")
     static void promise29NotIfAMixIsNotOfCowsThatThereAre() {
         for (long mix : new long[] {0, 8, 255, -1, MIN, MAX}) {
             for (int what = 0; what < 4; what++) {
@@ -137,6 +143,7 @@ final class Edges29To35 {
         Edges.refused("NOT", () -> row("111;p1", 8, 1), NOT, x -> fits(x, 1, 0));
     }
 
+    @Says("an answer is not 0, 1.")
     static void promise29NotIfAnAnswerIsNotZeroOrOne() {
         for (long is : new long[] {2, -1, 256, MIN, MAX}) {
             for (int what = 0; what < 4; what++) {
@@ -224,12 +231,14 @@ final class Edges29To35 {
         slips("ever, the other", row("11;p1", 1, 1), 1, 10, 1, 1, 1);
     }
 
+    @Says("BAD;")
     static void promise30SlipsBelowZeroOrAboveTenAreBad() {
         for (int c : new int[] {-1, 11, MIN, MAX}) {
             Edges.bad("c " + c, Edges29To35::rows, x -> x.slips(0, 0, c, 1, 3, 0, 1, 0));
         }
     }
 
+    @Says(terms = "(0 by 1, if the row could not be told at all).")
     static void promise30ZeroByOneIfTheRowCouldNotBeTold() {
         slips("never", row("11;p1", 1, 1, 2, 1), 0, 0, 2, 0, 1);
         slips("never, the other", row("11;p1", 1, 1, 2, 1), 1, 0, 2, 0, 1);
@@ -260,12 +269,14 @@ final class Edges29To35 {
         slips("another", x, 7, 1, 6, 1, 531448);
     }
 
+    @Says("BAD;")
     static void promise30NoPairAndSevenAreBad() {
         for (int n : new int[] {0, -1, 7, MIN, MAX}) {
             Edges.bad("n " + n, Edges29To35::rows, x -> x.slips(0, 0, 1, 1, 3, 0, n, 0));
         }
     }
 
+    @Says("BAD;")
     static void promise30NoSuchCowTasterSheetLaneOrWhatIsBad() {
         for (int number : NO_NUMBERS) {
             Edges.bad("cow " + number, Edges29To35::rows, x -> x.slips(number, 0, 1, 1, 3, 0, 1, 0));
@@ -291,6 +302,7 @@ final class Edges29To35 {
         Edges.bad("what ahead of NOT", Edges29To35::rows, x -> x.slips(0, 0, 1, 0, 2, 0, 1, 2));
     }
 
+    @Says("NULL; CAST; INDEX; NOT: likewise.")
     static void promise30NullCastIndexNotInThisOrder() {
         Edges.refused("NULL ahead of INDEX", Edges29To35::rows, NULL, x -> x.slips(0, 0, 1, 3, 2, -1, 6, 0));
         Edges.refused("CAST ahead of INDEX", Edges29To35::rows, CAST, x -> x.slips(0, 0, 1, 1, 2, 9, 1, 0));
@@ -307,6 +319,7 @@ final class Edges29To35 {
         Edges.refused("two from 1", Edges29To35::rows, INDEX, x -> x.slips(0, 0, 0, 1, 3, 1, 2, 0));
     }
 
+    @Says("NOT: likewise.")
     static void promise30NotLikewise() {
         for (long[] pair : new long[][] {{0, 1}, {8, 1}, {-1, 1}, {1, 2}, {1, -1}}) {
             due("NOT", row("111;p1", pair).slips(0, 0, 1, 0, 2, 0, 1, 0), NOT);
@@ -343,12 +356,14 @@ final class Edges29To35 {
         due("the last item", mixAt(x, 0, 2, 23), 24);
     }
 
+    @Says("BAD (such a MIX is none, too);")
     static void promise31BelowOneOrAboveTwentyFourIsBad() {
         for (int n : new int[] {0, -1, 25, MIN, MAX}) {
             Edges.bad("n " + n, Edges::full, x -> x.film(0, n, 1, 2, 0));
         }
     }
 
+    @Says("BAD (such a MIX is none, too);")
     static void promise31OfCowsThatThereAreBadToo() {
         String[] texts = {"1;p1", "11;p1", "111;p1", "1111;p1"};
         for (String text : texts) {
@@ -365,6 +380,7 @@ final class Edges29To35 {
         }, x -> x.film(0, 1, 0, 2, 0));
     }
 
+    @Says("BAD (such a MIX is none, too);")
     static void promise31NoSuchTasterSheetOrLaneIsBad() {
         for (int number : NO_NUMBERS) {
             Edges.bad("taster " + number, Edges::rich, x -> x.film(number, 1, 1, 2, 0));
@@ -382,6 +398,7 @@ final class Edges29To35 {
         Edges.bad("lane", Edges29To35::rows, x -> x.film(0, 1, 3, 4, 0));
     }
 
+    @Says("NULL; CAST;")
     static void promise31NullCastIndexInThisOrder() {
         Edges.refused("NULL", Edges29To35::rows, NULL, x -> x.film(0, 1, 3, 2, 0));
         Edges.refused("NULL ahead of INDEX", Edges29To35::rows, NULL, x -> x.film(0, 1, 3, 2, -1));
@@ -389,6 +406,7 @@ final class Edges29To35 {
         Edges.refused("CAST ahead of INDEX", Edges29To35::rows, CAST, x -> x.film(0, 1, 0, 3, 12));
     }
 
+    @Says("INDEX.")
     static void promise31ToTheEndHoldsOneMoreIsIndex() {
         due("seven from 5", rows().film(0, 7, 0, 2, 5), 7);
         Edges.refused("seven from 6", Edges29To35::rows, INDEX, x -> x.film(0, 7, 0, 2, 6));
@@ -454,17 +472,20 @@ final class Edges29To35 {
         }
     }
 
+    @Says("BAD: also n above 24;")
     static void promise32AboveTwentyFourIsBad() {
         Edges.bad("25", Edges::rich, x -> x.sheet(1, 2, 25));
         Edges.bad("MAX", Edges::rich, x -> x.sheet(1, 2, MAX));
     }
 
+    @Says("SIZE: n below 0.")
     static void promise32BelowZeroIsSize() {
         Edges.refused("-1", Edges::rich, NewsCow.SIZE, x -> x.sheet(1, 2, -1));
         Edges.refused("MIN", Edges::rich, NewsCow.SIZE, x -> x.sheet(1, 0, MIN));
         Edges.refused("-1, where nothing is", Edges::rich, NewsCow.SIZE, x -> x.sheet(2, 0, -1));
     }
 
+    @Says("BAD: also n above 24;")
     static void promise32NoSuchSheetOrLaneIsBad() {
         for (int number : NO_NUMBERS) {
             Edges.bad("sheet " + number, Edges::rich, x -> x.sheet(number, 0, 1));
@@ -500,6 +521,7 @@ final class Edges29To35 {
 
     // ---- 33 drop
 
+    @Says("NULL.")
     static void promise33NullIfItHoldsNothing() {
         Edges.refused("never one", Edges::rich, NULL, x -> x.drop(2));
         Edges.refused("dropped", () -> {
@@ -520,6 +542,7 @@ final class Edges29To35 {
         due("again", x.drop(3), NULL);
     }
 
+    @Says("BAD;")
     static void promise33NoSuchSheetIsBad() {
         for (int number : NO_NUMBERS) {
             Edges.bad("drop(" + number + ")", Edges::rich, x -> x.drop(number));
@@ -535,6 +558,7 @@ final class Edges29To35 {
 
     // ---- 34 item
 
+    @Says("INDEX.")
     static void promise34TheFirstAndTheLastHoldTheNextIsIndex() {
         due("the first", Edges.rich().item(1, 2, 0, 1), 1);
         due("the last", Edges.rich().item(1, 2, 11, 1), 1);
@@ -544,6 +568,7 @@ final class Edges29To35 {
         Edges.refused("an empty row", Edges::rich, INDEX, x -> x.item(3, 3, 0, 9));
     }
 
+    @Says("BAD;")
     static void promise34NoSuchSheetOrLaneIsBad() {
         for (int number : NO_NUMBERS) {
             Edges.bad("sheet " + number, Edges::rich, x -> x.item(number, 0, 0, 9));
@@ -551,6 +576,7 @@ final class Edges29To35 {
         }
     }
 
+    @Says("BAD; NULL; CAST;")
     static void promise34BadNullCastIndexInThisOrder() {
         Edges.bad("BAD ahead of NULL", Edges::rich, x -> x.item(2, 4, 0, 9));
         Edges.bad("BAD ahead of INDEX", Edges::rich, x -> x.item(1, -1, 99, 9));
@@ -670,6 +696,7 @@ final class Edges29To35 {
         due("of empty rows", rows().copy(2, 0, 2, 0, 0), 0);
     }
 
+    @Says("INDEX.")
     static void promise35OneMoreThanThereAreIsIndex() {
         Edges.refused("from, n", Edges29To35::powers, INDEX, x -> x.copy(0, 0, 0, 0, 7));
         Edges.refused("from, i", Edges29To35::powers, INDEX, x -> x.copy(0, 3, 1, 0, 4));
@@ -680,6 +707,7 @@ final class Edges29To35 {
         Edges.refused("an empty row", Edges29To35::rows, INDEX, x -> x.copy(0, 0, 2, 0, 1));
     }
 
+    @Says("INDEX.")
     static void promise35BelowZeroOrFarTooMuchIsIndex() {
         for (int k : new int[] {-1, MIN, MAX}) {
             Edges.refused("i " + k, Edges29To35::powers, INDEX, x -> x.copy(0, k, 1, 0, 1));
@@ -691,6 +719,7 @@ final class Edges29To35 {
         }
     }
 
+    @Says("BAD;")
     static void promise35NoSuchSheetIsBad() {
         for (int number : NO_NUMBERS) {
             Edges.bad("from " + number, Edges29To35::powers, x -> x.copy(number, 0, 0, 0, 1));
@@ -698,6 +727,7 @@ final class Edges29To35 {
         }
     }
 
+    @Says(value = "NULL (either); CAST: of unlike LANES;", terms = "(NULL, CAST, INDEX, SIZE in this order).")
     static void promise35BadNullCastIndexInThisOrder() {
         Edges.bad("BAD ahead of NULL", Edges29To35::powers, x -> x.copy(3, 0, 4, 0, 1));
         Edges.bad("BAD ahead of NULL", Edges29To35::powers, x -> x.copy(4, 0, 3, 0, 1));

@@ -5,6 +5,6 @@ public final class EdgesTest {
         Edges.run(Edges11To17.class);
         Edges.run(Edges18To28.class);
         Edges.run(Edges29To35.class);
-        Edges.end();
+        Edges.end("EdgesTest");
     }
 }

@@ -356,9 +356,10 @@ public final class SheetTest {
 
     private static void film() {
         NewsCow x = eight();
-        x.answer(0, 0b111, 1);
-        x.sheet(0, 2, 24);
         for (int taster = 0; taster < 4; taster++) {
+            x = eight();
+            x.answer(0, 0b111, 1);
+            x.sheet(0, 2, 24);
             due("31: film", x.film(taster, 24, 0, 2, 0), 24);
             for (int mix = 1; mix <= 24; mix++) {
                 int want = x.tells(taster, mix);
