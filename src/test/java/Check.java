@@ -47,6 +47,23 @@ final class Check {
         return x;
     }
 
+    /** A herd, and sheet 0 with a row of ints. */
+    static NewsCow row(String text, long... items) {
+        NewsCow x = of(text);
+        x.sheet(0, 2, items.length);
+        items(x, 0, 2, items);
+        return x;
+    }
+
+    /** The set of cows of whom he notices it in a mix, by one call each. */
+    static int noticing(NewsCow x, int taster, int mix) {
+        int set = 0;
+        for (int c = 0; c < x.count(0); c++) {
+            set |= x.notices(taster, mix, c) << c;
+        }
+        return set;
+    }
+
     static void items(NewsCow x, int sheet, int lane, long... values) {
         for (int k = 0; k < values.length; k++) {
             if (x.item(sheet, lane, k, values[k]) != 1) {

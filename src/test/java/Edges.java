@@ -2,6 +2,7 @@ import java.lang.reflect.InvocationTargetException;
 import java.lang.reflect.Method;
 import java.util.Arrays;
 import java.util.Comparator;
+import java.util.List;
 import java.util.function.Supplier;
 
 /** Runs tests, each a method that is named by the number of its promise. */
@@ -76,12 +77,17 @@ final class Edges {
 
     /** The answer is due, and nothing is changed by the call, whatever is looked at. */
     static void refused(String name, Supplier<NewsCow> made, long want, Look.Call call) {
+        changes(name, made, want, call);
+    }
+
+    /** The answer is due, and just these parts are not as they were. */
+    static void changes(String name, Supplier<NewsCow> made, long want, Look.Call call, String... parts) {
         due(name, call.on(made.get()), want);
         asked++;
-        String changed = Look.changedBy(made, call);
-        if (changed != null) {
+        List<String> changed = Look.changedBy(made, call);
+        if (!changed.equals(List.of(parts))) {
             wrong++;
-            System.out.println(test + ": " + name + " changed " + changed);
+            System.out.println(test + ": " + name + " changed " + changed + ", due is " + List.of(parts));
         }
     }
 

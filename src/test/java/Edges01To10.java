@@ -278,15 +278,6 @@ final class Edges01To10 {
 
     // ---- 7 notices
 
-    /** The set of cows of whom he notices it in a mix. */
-    private static int noticing(NewsCow x, int taster, int mix) {
-        int set = 0;
-        for (int c = 0; c < x.count(0); c++) {
-            set |= x.notices(taster, mix, c) << c;
-        }
-        return set;
-    }
-
     @Says("BAD.")
     static void promise07AMixHasOneCowAtLeast() {
         Edges.bad("notices(0, 0, 0)", Edges::rich, x -> x.notices(0, 0, 0));
@@ -317,55 +308,55 @@ final class Edges01To10 {
     }
 
     static void promise07DullNoticesJustAsMuchButNotLess() {
-        due("1 * 9 of 9", noticing(Check.of("18;d9"), 0, 3), 3);
-        due("1 * 9 of 10", noticing(Check.of("19;d9"), 0, 3), 2);
-        due("2 * 3 of 6", noticing(Check.of("24;d3"), 0, 3), 3);
-        due("2 * 3 of 7", noticing(Check.of("25;d3"), 0, 3), 2);
-        due("alone by 1", noticing(Check.of("37;d1"), 0, 1), 1);
-        due("two by 1", noticing(Check.of("37;d1"), 0, 3), 0);
-        due("9 * 8 of 72", noticing(Check.of("99999999;d8"), 0, 255), 255);
-        due("9 * 7 of 72", noticing(Check.of("99999999;d7"), 0, 255), 0);
+        due("1 * 9 of 9", Check.noticing(Check.of("18;d9"), 0, 3), 3);
+        due("1 * 9 of 10", Check.noticing(Check.of("19;d9"), 0, 3), 2);
+        due("2 * 3 of 6", Check.noticing(Check.of("24;d3"), 0, 3), 3);
+        due("2 * 3 of 7", Check.noticing(Check.of("25;d3"), 0, 3), 2);
+        due("alone by 1", Check.noticing(Check.of("37;d1"), 0, 1), 1);
+        due("two by 1", Check.noticing(Check.of("37;d1"), 0, 3), 0);
+        due("9 * 8 of 72", Check.noticing(Check.of("99999999;d8"), 0, 255), 255);
+        due("9 * 7 of 72", Check.noticing(Check.of("99999999;d7"), 0, 255), 0);
     }
 
     static void promise07DullNeedsHerInTheMix() {
-        due("strong, but not in it", noticing(Check.of("91;d9"), 0, 2), 2);
+        due("strong, but not in it", Check.noticing(Check.of("91;d9"), 0, 2), 2);
     }
 
     static void promise07FancifulAsFineIsPlainOneMoreIsNot() {
-        due("1 of 1", noticing(Check.of("111;f1"), 0, 4), 4);
-        due("2 of 1", noticing(Check.of("111;f1"), 0, 6), 7);
-        due("2 of 2", noticing(Check.of("111;f2"), 0, 6), 6);
-        due("3 of 2", noticing(Check.of("1111;f2"), 0, 7), 15);
-        due("8 of 7, 7 of 7", noticing(Check.of("11111111;f7"), 0, 127), 127);
-        due("8 of 7, all", noticing(Check.of("11111111;f7"), 0, 255), 255);
+        due("1 of 1", Check.noticing(Check.of("111;f1"), 0, 4), 4);
+        due("2 of 1", Check.noticing(Check.of("111;f1"), 0, 6), 7);
+        due("2 of 2", Check.noticing(Check.of("111;f2"), 0, 6), 6);
+        due("3 of 2", Check.noticing(Check.of("1111;f2"), 0, 7), 15);
+        due("8 of 7, 7 of 7", Check.noticing(Check.of("11111111;f7"), 0, 127), 127);
+        due("8 of 7, all", Check.noticing(Check.of("11111111;f7"), 0, 255), 255);
     }
 
     static void promise07SleepyNeverOnMultiplesOfThree() {
-        due("day 0", noticing(Check.of("11;s9,p1"), 0, 1), 0);
-        due("day 3", noticing(Edges.onDay(3), 1, 1), 0);
-        due("day 9999", noticing(Edges.onDay(9999), 1, 1), 0);
-        due("day 1", noticing(Edges.onDay(1), 1, 1), 1);
-        due("day 2", noticing(Edges.onDay(2), 1, 1), 1);
-        due("day 4", noticing(Edges.onDay(4), 1, 1), 1);
-        due("day 9998", noticing(Edges.onDay(9998), 1, 1), 1);
+        due("day 0", Check.noticing(Check.of("11;s9,p1"), 0, 1), 0);
+        due("day 3", Check.noticing(Edges.onDay(3), 1, 1), 0);
+        due("day 9999", Check.noticing(Edges.onDay(9999), 1, 1), 0);
+        due("day 1", Check.noticing(Edges.onDay(1), 1, 1), 1);
+        due("day 2", Check.noticing(Edges.onDay(2), 1, 1), 1);
+        due("day 4", Check.noticing(Edges.onDay(4), 1, 1), 1);
+        due("day 9998", Check.noticing(Edges.onDay(9998), 1, 1), 1);
     }
 
     static void promise07PoetTheOtherWayRoundOnOddDays() {
-        due("day 0, as fine", noticing(Edges.onDay(0), 2, 3), 3);
-        due("day 0, more", noticing(Edges.onDay(0), 2, 7), 255);
-        due("day 1, as fine", noticing(Edges.onDay(1), 2, 3), 252);
-        due("day 1, more", noticing(Edges.onDay(1), 2, 7), 0);
-        due("day 2, as fine", noticing(Edges.onDay(2), 2, 3), 3);
-        due("day 9998, more", noticing(Edges.onDay(9998), 2, 7), 255);
-        due("day 9999, as fine", noticing(Edges.onDay(9999), 2, 3), 252);
-        due("day 9999, more", noticing(Edges.onDay(9999), 2, 7), 0);
+        due("day 0, as fine", Check.noticing(Edges.onDay(0), 2, 3), 3);
+        due("day 0, more", Check.noticing(Edges.onDay(0), 2, 7), 255);
+        due("day 1, as fine", Check.noticing(Edges.onDay(1), 2, 3), 252);
+        due("day 1, more", Check.noticing(Edges.onDay(1), 2, 7), 0);
+        due("day 2, as fine", Check.noticing(Edges.onDay(2), 2, 3), 3);
+        due("day 9998, more", Check.noticing(Edges.onDay(9998), 2, 7), 255);
+        due("day 9999, as fine", Check.noticing(Edges.onDay(9999), 2, 3), 252);
+        due("day 9999, more", Check.noticing(Edges.onDay(9999), 2, 7), 0);
     }
 
     static void promise07WhateverItMayBe() {
         NewsCow x = threeCows();
         x.answer(0, 1, 1);
         x.answer(0, 1, 0);
-        due("it may be none", noticing(x, 0, 6), 6);
+        due("it may be none", Check.noticing(x, 0, 6), 6);
         Edges.changesNothing("notices(0, 6, 1)", Edges::rich, y -> y.notices(0, 6, 1));
     }
 

@@ -123,6 +123,36 @@ final class Edges18To28 {
         due("one of eight", x.fewest(2), 0);
     }
 
+    /** What the mixes of another taster told of another herd tells nothing of this one. */
+    private static NewsCow asleepBehindOneAwake() {
+        NewsCow x = Check.of("111;p1");
+        x.answer(0, 5, 1);
+        due("awake, fewest", x.fewest(0), 1);
+        due("awake, next", x.next(0), 1);
+        due("awake, at once", x.once(0, 0), 1);
+        due("awake, halves", x.halves(0, 1), 1);
+        Check.herd(x, "11;s9");
+        return x;
+    }
+
+    static void promise19ByNothingThatOthersTold() {
+        due("fewest", asleepBehindOneAwake().fewest(0), NONE);
+    }
+
+    static void promise20ByNothingThatOthersTold() {
+        due("next", asleepBehindOneAwake().next(0), NONE);
+    }
+
+    static void promise21ByNothingThatOthersTold() {
+        due("how many", asleepBehindOneAwake().once(0, -1), NONE);
+        due("the first", asleepBehindOneAwake().once(0, 0), NONE);
+    }
+
+    static void promise22ByNothingThatOthersTold() {
+        due("the mix", asleepBehindOneAwake().halves(0, 0), 1);
+        due("how many", asleepBehindOneAwake().halves(0, 1), 2);
+    }
+
     @Says("BAD.")
     static void promise19NoSuchTasterIsBad() {
         for (int taster : NO_TASTERS) {
@@ -307,6 +337,7 @@ final class Edges18To28 {
 
     static void promise23OneByOneIfSheAlone() {
         likely("one cow", oneCow(), 0, 1, 1);
+        likely("one cow of least milk", Check.of("1"), 0, 1, 1);
         likely("one of three", mayBe(4), 2, 1, 1);
     }
 
@@ -348,6 +379,7 @@ final class Edges18To28 {
     static void promise24NeverAndEver() {
         noticed("asleep", Check.of("123;s9"), 0, 7, 0, 1);
         noticed("all", Check.of("123;p1"), 0, 7, 1, 1);
+        noticed("one cow of least milk", Check.of("1;p1"), 0, 1, 1, 1);
         noticed("others", mayBe(3), 0, 4, 0, 1);
         noticed("fanciful", Check.of("123;f1"), 0, 3, 1, 1);
     }
@@ -452,6 +484,7 @@ final class Edges18To28 {
     static void promise26AloneOneByOne() {
         share("alone", Check.of("123"), 2, 4, 1, 1);
         share("one cow", Check.of("9"), 0, 1, 1, 1);
+        share("one cow of least milk", Check.of("1"), 0, 1, 1, 1);
     }
 
     static void promise26InLowestTerms() {

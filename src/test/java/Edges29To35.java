@@ -18,14 +18,6 @@ final class Edges29To35 {
         Edges.due(call, got, want);
     }
 
-    /** A herd, and sheet 0 with a row of ints. */
-    private static NewsCow row(String text, long... items) {
-        NewsCow x = Check.of(text);
-        x.sheet(0, 2, items.length);
-        Check.items(x, 0, 2, items);
-        return x;
-    }
-
     /** Sheet 0 is of ints, sheet 1 of longs, sheet 2 is empty, sheet 3 holds nothing; no pair of sheet 0 is well. */
     private static NewsCow rows() {
         NewsCow x = Check.of("12!3;p1,d2");
@@ -44,7 +36,7 @@ final class Edges29To35 {
     }
 
     static void promise29OnePairAndSixHold() {
-        Supplier<NewsCow> made = () -> row("11111111;p1", 1, 0, 2, 0, 4, 0, 8, 0, 16, 0, 32, 0);
+        Supplier<NewsCow> made = () -> Check.row("11111111;p1", 1, 0, 2, 0, 4, 0, 8, 0, 16, 0, 32, 0);
         due("one", fits(made.get(), 1, 0), 254);
         due("six", fits(made.get(), 6, 0), 192);
         due("six, lies", fits(made.get(), 6, 1), 255);
@@ -101,7 +93,7 @@ final class Edges29To35 {
 
     @Says("INDEX;")
     static void promise29ToTheEndHoldsOneMoreIsIndex() {
-        Supplier<NewsCow> made = () -> row("111;p1", 1, 1, 3, 1, 5, 1);
+        Supplier<NewsCow> made = () -> Check.row("111;p1", 1, 1, 3, 1, 5, 1);
         due("all", made.get().fits(0, 0, 2, 0, 3, 0), 1);
         due("the last pair", made.get().fits(0, 0, 2, 4, 1, 0), 5);
         for (int i : new int[] {5, 6, 7, -1, MIN, MAX, MAX - 1}) {
@@ -132,26 +124,26 @@ final class Edges29To35 {
     static void promise29NotIfAMixIsNotOfCowsThatThereAre() {
         for (long mix : new long[] {0, 8, 255, -1, MIN, MAX}) {
             for (int what = 0; what < 4; what++) {
-                due("mix " + mix, fits(row("111;p1", mix, 1, 1, 1), 2, what), NOT);
-                due("mix " + mix + ", the second", fits(row("111;p1", 1, 1, mix, 1), 2, what), NOT);
+                due("mix " + mix, fits(Check.row("111;p1", mix, 1, 1, 1), 2, what), NOT);
+                due("mix " + mix + ", the second", fits(Check.row("111;p1", 1, 1, mix, 1), 2, what), NOT);
             }
         }
-        due("the first mix", fits(row("111;p1", 1, 1), 1, 0), 1);
-        due("the last mix", fits(row("111;p1", 7, 1), 1, 0), 7);
-        due("the last mix of eight", fits(row("11111111;p1", 255, 1), 1, 0), 255);
-        due("256", fits(row("11111111;p1", 256, 1), 1, 0), NOT);
-        Edges.refused("NOT", () -> row("111;p1", 8, 1), NOT, x -> fits(x, 1, 0));
+        due("the first mix", fits(Check.row("111;p1", 1, 1), 1, 0), 1);
+        due("the last mix", fits(Check.row("111;p1", 7, 1), 1, 0), 7);
+        due("the last mix of eight", fits(Check.row("11111111;p1", 255, 1), 1, 0), 255);
+        due("256", fits(Check.row("11111111;p1", 256, 1), 1, 0), NOT);
+        Edges.refused("NOT", () -> Check.row("111;p1", 8, 1), NOT, x -> fits(x, 1, 0));
     }
 
     @Says("an answer is not 0, 1.")
     static void promise29NotIfAnAnswerIsNotZeroOrOne() {
         for (long is : new long[] {2, -1, 256, MIN, MAX}) {
             for (int what = 0; what < 4; what++) {
-                due("answer " + is, fits(row("111;p1", 1, is, 1, 1), 2, what), NOT);
-                due("answer " + is + ", the second", fits(row("111;p1", 1, 1, 1, is), 2, what), NOT);
+                due("answer " + is, fits(Check.row("111;p1", 1, is, 1, 1), 2, what), NOT);
+                due("answer " + is + ", the second", fits(Check.row("111;p1", 1, 1, 1, is), 2, what), NOT);
             }
         }
-        due("0", fits(row("111;p1", 1, 0), 1, 0), 6);
+        due("0", fits(Check.row("111;p1", 1, 0), 1, 0), 6);
     }
 
     static void promise29LongsAreNotCut() {
@@ -166,51 +158,51 @@ final class Edges29To35 {
     }
 
     static void promise29PairsOutsideTheRowDoNotMatter() {
-        NewsCow x = row("111;p1", 0, 9, 3, 1, 0, 9);
+        NewsCow x = Check.row("111;p1", 0, 9, 3, 1, 0, 9);
         due("from 2 on", x.fits(0, 0, 2, 2, 1, 0), 3);
         due("from 0 on", x.fits(0, 0, 2, 0, 2, 0), NOT);
         due("to the end", x.fits(0, 0, 2, 2, 2, 0), NOT);
     }
 
     static void promise29FitsOfAllThatThereAre() {
-        NewsCow x = row("111;p1", 3, 1);
+        NewsCow x = Check.row("111;p1", 3, 1);
         x.answer(0, 7, 0);
         due("it may be none", fits(x, 1, 0), 3);
         due("lies", fits(x, 1, 1), 7);
     }
 
     static void promise29NoneFits() {
-        due("fits", fits(row("111;p1", 1, 1, 6, 1), 2, 0), 0);
-        due("kinds", fits(row("1;p1", 1, 1, 1, 0), 2, 2), 0);
-        due("how fine", fits(row("1;p1", 1, 1, 1, 0), 2, 3), 0);
+        due("fits", fits(Check.row("111;p1", 1, 1, 6, 1), 2, 0), 0);
+        due("kinds", fits(Check.row("1;p1", 1, 1, 1, 0), 2, 2), 0);
+        due("how fine", fits(Check.row("1;p1", 1, 1, 1, 0), 2, 3), 0);
     }
 
     static void promise29LiesOfOneAtMost() {
-        due("none of one", fits(row("111;p1", 1, 1), 1, 1), 7);
-        due("one of two", fits(row("111;p1", 1, 1, 2, 1), 2, 1), 3);
-        due("two of two", fits(row("1;p1", 1, 0, 1, 0), 2, 1), 0);
-        due("two of three", fits(row("111;p1", 1, 1, 2, 1, 4, 1), 3, 1), 0);
-        due("one of six", fits(row("11;p1", 1, 1, 1, 1, 1, 1, 1, 1, 1, 1, 2, 1), 6, 1), 1);
-        due("two of six", fits(row("11;p1", 1, 1, 1, 1, 1, 1, 1, 1, 2, 1, 2, 1), 6, 1), 0);
+        due("none of one", fits(Check.row("111;p1", 1, 1), 1, 1), 7);
+        due("one of two", fits(Check.row("111;p1", 1, 1, 2, 1), 2, 1), 3);
+        due("two of two", fits(Check.row("1;p1", 1, 0, 1, 0), 2, 1), 0);
+        due("two of three", fits(Check.row("111;p1", 1, 1, 2, 1, 4, 1), 3, 1), 0);
+        due("one of six", fits(Check.row("11;p1", 1, 1, 1, 1, 1, 1, 1, 1, 1, 1, 2, 1), 6, 1), 1);
+        due("two of six", fits(Check.row("11;p1", 1, 1, 1, 1, 1, 1, 1, 1, 2, 1, 2, 1), 6, 1), 0);
     }
 
     static void promise29KindsByTheDay() {
         // one cow in a mix of her own: asleep on day 0; the other way round on day 1
-        NewsCow x = row("1;p1", 1, 1);
+        NewsCow x = Check.row("1;p1", 1, 1);
         due("day 0", fits(x, 1, 2), 0b10111);
         x.answer(0, 1, 1);
         due("day 1", fits(x, 1, 2), 0b01111);
-        due("day 0, not noticed", fits(row("1;p1", 1, 0), 1, 2), 0b01000);
-        due("all", fits(row("11;p1", 1, 0), 1, 2), 0b11111);
+        due("day 0, not noticed", fits(Check.row("1;p1", 1, 0), 1, 2), 0b01000);
+        due("all", fits(Check.row("11;p1", 1, 0), 1, 2), 0b11111);
     }
 
     static void promise29HowFineFromOneToNine() {
-        due("any", fits(row("11;p5", 1, 1), 1, 3), 0b1111111110);
-        due("dull, 1 * 9 of 9", fits(row("18;d1", 3, 1, 2, 0), 2, 3), 0b1000000000);
-        due("dull, 1 * 9 of 10", fits(row("19;d1", 3, 1, 2, 0), 2, 3), 0);
-        due("fanciful, below 2", fits(row("111;f9", 3, 1, 4, 1), 2, 3), 0b10);
-        due("fanciful, below 8", fits(row("11111111;f9", 255, 1, 1, 0), 2, 3), 0b1111111110);
-        due("fanciful, from 8 on", fits(row("11111111;f1", 255, 0), 1, 3), 0);
+        due("any", fits(Check.row("11;p5", 1, 1), 1, 3), 0b1111111110);
+        due("dull, 1 * 9 of 9", fits(Check.row("18;d1", 3, 1, 2, 0), 2, 3), 0b1000000000);
+        due("dull, 1 * 9 of 10", fits(Check.row("19;d1", 3, 1, 2, 0), 2, 3), 0);
+        due("fanciful, below 2", fits(Check.row("111;f9", 3, 1, 4, 1), 2, 3), 0b10);
+        due("fanciful, below 8", fits(Check.row("11111111;f9", 255, 1, 1, 0), 2, 3), 0b1111111110);
+        due("fanciful, from 8 on", fits(Check.row("11111111;f1", 255, 0), 1, 3), 0);
     }
 
     static void promise29ChangesNothing() {
@@ -225,10 +217,10 @@ final class Edges29To35 {
     }
 
     static void promise30SlipsByZeroAndTenHold() {
-        slips("never", row("11;p1", 1, 1), 0, 0, 1, 1, 1);
-        slips("never, the other", row("11;p1", 1, 1), 1, 0, 1, 0, 1);
-        slips("ever", row("11;p1", 1, 1), 0, 10, 1, 0, 1);
-        slips("ever, the other", row("11;p1", 1, 1), 1, 10, 1, 1, 1);
+        slips("never", Check.row("11;p1", 1, 1), 0, 0, 1, 1, 1);
+        slips("never, the other", Check.row("11;p1", 1, 1), 1, 0, 1, 0, 1);
+        slips("ever", Check.row("11;p1", 1, 1), 0, 10, 1, 0, 1);
+        slips("ever, the other", Check.row("11;p1", 1, 1), 1, 10, 1, 1, 1);
     }
 
     @Says("BAD;")
@@ -238,18 +230,23 @@ final class Edges29To35 {
         }
     }
 
+    static void promise30TheLeastThatCanBeWeighed() {
+        // one cow that gives 1, an answer that slips by 9 of 10: 1 of 1
+        slips("she", Check.row("1;p1", 1, 1), 0, 9, 1, 1, 1);
+    }
+
     @Says(terms = "(0 by 1, if the row could not be told at all).")
     static void promise30ZeroByOneIfTheRowCouldNotBeTold() {
-        slips("never", row("11;p1", 1, 1, 2, 1), 0, 0, 2, 0, 1);
-        slips("never, the other", row("11;p1", 1, 1, 2, 1), 1, 0, 2, 0, 1);
-        slips("ever", row("11;p1", 1, 1, 2, 1), 0, 10, 2, 0, 1);
-        NewsCow x = row("11;p1", 1, 1);
+        slips("never", Check.row("11;p1", 1, 1, 2, 1), 0, 0, 2, 0, 1);
+        slips("never, the other", Check.row("11;p1", 1, 1, 2, 1), 1, 0, 2, 0, 1);
+        slips("ever", Check.row("11;p1", 1, 1, 2, 1), 0, 10, 2, 0, 1);
+        NewsCow x = Check.row("11;p1", 1, 1);
         x.answer(0, 3, 0);
         slips("it may be none", x, 0, 5, 1, 0, 1);
     }
 
     static void promise30ZeroByOneIfSheMayNotBe() {
-        NewsCow x = row("123;p1", 1, 1);
+        NewsCow x = Check.row("123;p1", 1, 1);
         x.answer(0, 6, 1);
         slips("not she", x, 0, 1, 1, 0, 1);
         slips("she", x, 1, 1, 1, 2, 5);
@@ -257,14 +254,14 @@ final class Edges29To35 {
 
     static void promise30OnePairAndSixHold() {
         // 9 * 9 of 9 * 9 and 7; six times so: 9 * 531441 of that and 7
-        slips("one", row("97;p1", 1, 1), 0, 1, 1, 81, 88);
-        slips("six", row("97;p1", 1, 1, 1, 1, 1, 1, 1, 1, 1, 1, 1, 1), 0, 1, 6, 4782969, 4782976);
-        slips("six, the other", row("97;p1", 1, 1, 1, 1, 1, 1, 1, 1, 1, 1, 1, 1), 1, 1, 6, 7, 4782976);
+        slips("one", Check.row("97;p1", 1, 1), 0, 1, 1, 81, 88);
+        slips("six", Check.row("97;p1", 1, 1, 1, 1, 1, 1, 1, 1, 1, 1, 1, 1), 0, 1, 6, 4782969, 4782976);
+        slips("six, the other", Check.row("97;p1", 1, 1, 1, 1, 1, 1, 1, 1, 1, 1, 1, 1), 1, 1, 6, 7, 4782976);
     }
 
     static void promise30OfTheGreatestHerd() {
         // 9 ^ 7 of that and 7 times 9
-        NewsCow x = row("99999999;p1", 1, 1, 1, 1, 1, 1, 1, 1, 1, 1, 1, 1);
+        NewsCow x = Check.row("99999999;p1", 1, 1, 1, 1, 1, 1, 1, 1, 1, 1, 1, 1);
         slips("she", x, 0, 1, 6, 531441, 531448);
         slips("another", x, 7, 1, 6, 1, 531448);
     }
@@ -322,8 +319,8 @@ final class Edges29To35 {
     @Says("NOT: likewise.")
     static void promise30NotLikewise() {
         for (long[] pair : new long[][] {{0, 1}, {8, 1}, {-1, 1}, {1, 2}, {1, -1}}) {
-            due("NOT", row("111;p1", pair).slips(0, 0, 1, 0, 2, 0, 1, 0), NOT);
-            due("NOT", row("111;p1", pair).slips(0, 0, 1, 0, 2, 0, 1, 1), NOT);
+            due("NOT", Check.row("111;p1", pair).slips(0, 0, 1, 0, 2, 0, 1, 0), NOT);
+            due("NOT", Check.row("111;p1", pair).slips(0, 0, 1, 0, 2, 0, 1, 1), NOT);
         }
     }
 
@@ -367,7 +364,7 @@ final class Edges29To35 {
     static void promise31OfCowsThatThereAreBadToo() {
         String[] texts = {"1;p1", "11;p1", "111;p1", "1111;p1"};
         for (String text : texts) {
-            Supplier<NewsCow> made = () -> row(text, new long[24]);
+            Supplier<NewsCow> made = () -> Check.row(text, new long[24]);
             int last = (1 << made.get().count(0)) - 1;
             due(text + ", the last mix", made.get().film(0, last, 0, 2, 0), last);
             Edges.bad(text + ", one more", made, x -> x.film(0, last + 1, 0, 2, 0));
@@ -419,7 +416,7 @@ final class Edges29To35 {
 
     static void promise31ItemsOutsideStay() {
         Supplier<NewsCow> made = () -> {
-            NewsCow x = row("111;p1", 8, 8, 8, 8, 8);
+            NewsCow x = Check.row("111;p1", 8, 8, 8, 8, 8);
             x.film(0, 3, 0, 2, 1);
             return x;
         };
@@ -430,7 +427,7 @@ final class Edges29To35 {
     }
 
     static void promise31OfThoseThatItMayBe() {
-        NewsCow x = row("111;p1", 8, 8, 8);
+        NewsCow x = Check.row("111;p1", 8, 8, 8);
         x.answer(0, 2, 1);
         x.film(0, 3, 0, 2, 0);
         due("mix 1", mixAt(x, 0, 2, 0), NOT);
@@ -501,19 +498,19 @@ final class Edges29To35 {
     }
 
     static void promise32ANewRowIsOfZeros() {
-        NewsCow x = row("111;p1", 1, 1, 2, 1);
+        NewsCow x = Check.row("111;p1", 1, 1, 2, 1);
         x.sheet(0, 2, 4);
         due("no mix", x.fits(0, 0, 2, 0, 1, 0), NOT);
         x.item(0, 2, 0, 1);
         due("an answer of 0", x.fits(0, 0, 2, 0, 1, 0), 6);
-        x = row("111;p1", 1, 1, 2, 1);
+        x = Check.row("111;p1", 1, 1, 2, 1);
         x.sheet(0, 2, 2);
         x.sheet(0, 2, 4);
         due("behind a shorter one", x.fits(0, 0, 2, 2, 1, 0), NOT);
     }
 
     static void promise32AnotherLaneInItsPlace() {
-        NewsCow x = row("111;p1", 1, 1);
+        NewsCow x = Check.row("111;p1", 1, 1);
         due("sheet", x.sheet(0, 1, 2), 2);
         due("as it was", x.item(0, 2, 0, 1), CAST);
         due("as it is", x.item(0, 1, 0, 1), 1);
@@ -642,7 +639,7 @@ final class Edges29To35 {
     }
 
     static void promise34OthersStay() {
-        NewsCow x = row("11111111;p1", 1, 1, 2, 1, 4, 1);
+        NewsCow x = Check.row("11111111;p1", 1, 1, 2, 1, 4, 1);
         x.item(0, 2, 2, 8);
         due("ahead of it", x.fits(0, 0, 2, 0, 1, 0), 1);
         due("it", x.fits(0, 0, 2, 2, 1, 0), 8);
@@ -653,7 +650,7 @@ final class Edges29To35 {
 
     /** Sheets 0 and 1 of ints, 1, 2, 4 and so on in each, sheet 2 of bytes, sheet 3 holds nothing. */
     private static NewsCow powers() {
-        NewsCow x = row("11111111;p1", 1, 2, 4, 8, 16, 32);
+        NewsCow x = Check.row("11111111;p1", 1, 2, 4, 8, 16, 32);
         x.sheet(1, 2, 4);
         Check.items(x, 1, 2, 64, 128, 3, 5);
         x.sheet(2, 0, 6);

@@ -119,31 +119,22 @@ public final class HerdTest {
         due("5: poet", Check.of("1;o3").at(0, 0), 4);
     }
 
-    /** The set of cows of whom he notices it, by one call each. */
-    private static int noticing(NewsCow x, int taster, int mix) {
-        int set = 0;
-        for (int c = 0; c < x.count(0); c++) {
-            set |= x.notices(taster, mix, c) << c;
-        }
-        return set;
-    }
-
     private static void noticesByKind() {
         NewsCow x = Check.of("2413;p1,d2,f2");
-        due("7: plain", noticing(x, 0, 5), 5);
-        due("7: plain, all", noticing(x, 0, 15), 15);
-        due("7: dull, just as much", noticing(x, 1, 0b1101), 0b1000);
-        due("7: dull, 4 * 2 of 10", noticing(x, 1, 15), 0);
-        due("7: dull, 2 * 2 of 6", noticing(x, 1, 3), 2);
-        due("7: dull, alone", noticing(x, 1, 4), 4);
-        due("7: fanciful, 2 of 2", noticing(x, 2, 9), 9);
-        due("7: fanciful, 3 of 2", noticing(x, 2, 7), 15);
+        due("7: plain", Check.noticing(x, 0, 5), 5);
+        due("7: plain, all", Check.noticing(x, 0, 15), 15);
+        due("7: dull, just as much", Check.noticing(x, 1, 0b1101), 0b1000);
+        due("7: dull, 4 * 2 of 10", Check.noticing(x, 1, 15), 0);
+        due("7: dull, 2 * 2 of 6", Check.noticing(x, 1, 3), 2);
+        due("7: dull, alone", Check.noticing(x, 1, 4), 4);
+        due("7: fanciful, 2 of 2", Check.noticing(x, 2, 9), 9);
+        due("7: fanciful, 3 of 2", Check.noticing(x, 2, 7), 15);
         x = Check.of("11;d9");
-        due("7: dull, very fine", noticing(x, 0, 3), 3);
+        due("7: dull, very fine", Check.noticing(x, 0, 3), 3);
         x = Check.of("19;d9");
-        due("7: dull, 9 of 10", noticing(x, 0, 3), 2);
+        due("7: dull, 9 of 10", Check.noticing(x, 0, 3), 2);
         x = Check.of("18;d9");
-        due("7: dull, 9 of 9", noticing(x, 0, 3), 3);
+        due("7: dull, 9 of 9", Check.noticing(x, 0, 3), 3);
     }
 
     private static void noticesByDay() {
@@ -152,15 +143,15 @@ public final class HerdTest {
         int[] poet = {1, 2, 1, 2, 1, 2, 1};
         int[] poetOfBoth = {3, 0, 3, 0, 3, 0, 3};
         for (int day = 0; day < sleepy.length; day++) {
-            due("7: sleepy, day " + day, noticing(x, 0, 1), sleepy[day]);
-            due("7: poet, day " + day, noticing(x, 1, 1), poet[day]);
-            due("7: poet of both, day " + day, noticing(x, 1, 3), poetOfBoth[day]);
+            due("7: sleepy, day " + day, Check.noticing(x, 0, 1), sleepy[day]);
+            due("7: poet, day " + day, Check.noticing(x, 1, 1), poet[day]);
+            due("7: poet of both, day " + day, Check.noticing(x, 1, 3), poetOfBoth[day]);
             x.answer(2, 1, 1);
         }
         x = Check.of("12;s1,p1");
         x.answer(1, 1, 1);
-        due("7: sleepy as dull", noticing(x, 0, 3), 0);
-        due("7: sleepy as dull, alone", noticing(x, 0, 2), 2);
+        due("7: sleepy as dull", Check.noticing(x, 0, 3), 0);
+        due("7: sleepy as dull, alone", Check.noticing(x, 0, 2), 2);
     }
 
     private static void noticesWrong() {

@@ -13,23 +13,29 @@ final class Look {
     }
 
     private static final Part[] PARTS = {
-        Look::herd, Look::past, Look::tape, Look::image,
+        Look::cows, Look::tasters,
+        (x, seen) -> seen.add((long) x.count(2)),
+        Look::mayBe,
+        (x, seen) -> seen.add((long) x.count(4)),
+        (x, seen) -> seen.add((long) x.seed(0)),
+        Look::past, Look::tape, Look::image,
         (x, seen) -> sheet(x, 0, seen), (x, seen) -> sheet(x, 1, seen),
         (x, seen) -> sheet(x, 2, seen), (x, seen) -> sheet(x, 3, seen)};
     private static final String[] NAMES = {
-        "the herd", "what may be undone", "the tape", "the image", "sheet 0", "sheet 1", "sheet 2", "sheet 3"};
+        "cows", "tasters", "day", "may be", "bearer", "draw", "past", "tape", "image", "sheet 0", "sheet 1", "sheet 2", "sheet 3"};
 
-    /** Which part is not the same behind a call as without it; null: none. */
-    static String changedBy(Supplier<NewsCow> made, Call call) {
+    /** Which parts are not the same behind a call as without it, in the order above. */
+    static List<String> changedBy(Supplier<NewsCow> made, Call call) {
+        List<String> changed = new ArrayList<>();
         for (int k = 0; k < PARTS.length; k++) {
             // looking changes an object, so that each part is looked at on one made anew
             NewsCow with = made.get();
             call.on(with);
             if (!see(PARTS[k], with).equals(see(PARTS[k], made.get()))) {
-                return NAMES[k];
+                changed.add(NAMES[k]);
             }
         }
-        return null;
+        return changed;
     }
 
     private static List<Long> see(Part part, NewsCow x) {
@@ -38,21 +44,38 @@ final class Look {
         return seen;
     }
 
-    private static void herd(NewsCow x, List<Long> seen) {
-        for (int what = 0; what < 8; what++) {
-            seen.add((long) x.count(what));
-        }
+    private static void cows(NewsCow x, List<Long> seen) {
+        seen.add((long) x.count(0));
+        seen.add((long) x.count(5));
         for (int c = 0; c < 8; c++) {
             seen.add((long) x.of(c));
         }
+    }
+
+    private static void tasters(NewsCow x, List<Long> seen) {
+        seen.add((long) x.count(1));
         for (int t = 0; t < 4; t++) {
             seen.add((long) x.at(t, 0));
             seen.add((long) x.at(t, 1));
         }
+    }
+
+    private static void mayBe(NewsCow x, List<Long> seen) {
+        seen.add((long) x.count(3));
+        seen.add((long) x.count(6));
+    }
+
+    private static void herd(NewsCow x, List<Long> seen) {
+        cows(x, seen);
+        tasters(x, seen);
+        mayBe(x, seen);
+        seen.add((long) x.count(2));
+        seen.add((long) x.count(4));
         seen.add((long) x.seed(0));
     }
 
     private static void past(NewsCow x, List<Long> seen) {
+        seen.add((long) x.count(7));
         for (int k = 0; k < 9; k++) {
             seen.add((long) x.undo());
             for (int what = 2; what <= 4; what++) {
@@ -65,6 +88,8 @@ final class Look {
     private static void tape(NewsCow x, List<Long> seen) {
         seen.add((long) x.type(' '));
         seen.add((long) x.herd());
+        // a herd leaves the draw, which is no part of the tape
+        x.seed(0);
         herd(x, seen);
     }
 

@@ -18,19 +18,10 @@ final class Sentences01To10 {
         return x;
     }
 
-    /** The set of cows of whom he notices it in a mix. */
-    private static int noticing(NewsCow x, int taster, int mix) {
-        int set = 0;
-        for (int c = 0; c < x.count(0); c++) {
-            set |= x.notices(taster, mix, c) << c;
-        }
-        return set;
-    }
-
     /** What he notices by every mix, from 1 on. */
     private static void noticing(String name, NewsCow x, int taster, int... wants) {
         for (int mix = 1; mix <= wants.length; mix++) {
-            due(name + ", mix " + mix, noticing(x, taster, mix), wants[mix - 1]);
+            due(name + ", mix " + mix, Check.noticing(x, taster, mix), wants[mix - 1]);
         }
     }
 

@@ -151,6 +151,20 @@ final class Sentences11To17 {
         }
     }
 
+    @Says(terms = "the TASTER that it is by 65536, left over by how many there are, drinks")
+    static void promise15TheTasterOfManyDraws() {
+        // on day 0 a sleepy one tells nothing, a plain one whether cow 0 is in the mix
+        NewsCow x = Check.of("1!1;p1,s9");
+        for (int seed = 0; seed < 160; seed++) {
+            long draw = (seed * 99991L * 1103515245L + 12345L) % 2147483648L;
+            int mix = (int) (draw / 128 % 4);
+            int plain = mix == 0 ? 3 : mix % 2 == 1 ? mix : 3 - mix;
+            x.seed(seed * 99991);
+            due("draw " + draw, x.drift(1), draw / 65536 % 2 == 0 ? plain : 3);
+            x.undo();
+        }
+    }
+
     @Says(terms = "What is divided is cut.")
     static void promise15WhatIsDividedIsCut() {
         // 59559187 by 65536 is 908 and 52499 left, so nearer to 909; 908 by 3 leaves 2; by 128 it is 465306, by 16 leaves 10

@@ -141,14 +141,28 @@ final class Sentences18To28 {
 
     @Says(terms = "of like ones the first (the lesser set first, rising):")
     static void promise21TheFirstOfLikeOnes() {
-        String[] texts = {"111;p1", "1111;p1", "1111;f2", "1243;d3", "1111;o3", "132;d2", "1111;d2"};
+        String[] texts = {"111;p1", "1111;p1", "1111;f2", "1243;d3", "1111;o3", "132;d2", "1111;d2", "111;o1", "111;s9"};
         for (String text : texts) {
-            NewsCow x = Check.of(text);
-            int[] first = firstPair(x, x.count(0));
-            due(text + ", how many", x.once(0, -1), first == null ? NONE : 2);
-            due(text + ", the lesser", x.once(0, 0), first == null ? NONE : first[0]);
-            due(text + ", the greater", x.once(0, 1), first == null ? NONE : first[1]);
+            firstOfLikeOnes(text + " on day 0", Check.of(text));
+            firstOfLikeOnes(text + " on day 1", onDayOne(text));
         }
+        // on an odd day a poet notices it of all but one in a mix of one
+        due("the lesser", onDayOne("111;o9").once(0, 0), 1);
+        due("the greater", onDayOne("111;o9").once(0, 1), 2);
+    }
+
+    /** A plain taster more, by whose answer nothing is told. */
+    private static NewsCow onDayOne(String text) {
+        NewsCow x = Check.of(text);
+        x.answer(x.taster(0, 1), x.count(3), 1);
+        return x;
+    }
+
+    private static void firstOfLikeOnes(String name, NewsCow x) {
+        int[] first = firstPair(x, x.count(0));
+        due(name + ", how many", x.once(0, -1), first == null ? NONE : 2);
+        due(name + ", the lesser", x.once(0, 0), first == null ? NONE : first[0]);
+        due(name + ", the greater", x.once(0, 1), first == null ? NONE : first[1]);
     }
 
     /** Of all pairs of mixes the first by which no two cows answer alike. */

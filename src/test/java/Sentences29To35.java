@@ -9,14 +9,6 @@ final class Sentences29To35 {
         Edges.due(call, got, want);
     }
 
-    /** A herd, and sheet 0 with a row of ints. */
-    private static NewsCow row(String text, long... items) {
-        NewsCow x = Check.of(text);
-        x.sheet(0, 2, items.length);
-        Check.items(x, 0, 2, items);
-        return x;
-    }
-
     /** Item i of a sheet of ints as a mix of eight cows, by which sheet 3 is lost; NOT: it is none. */
     private static int mixAt(NewsCow x, int sheet, int i) {
         x.sheet(3, 2, 2);
@@ -55,7 +47,7 @@ final class Sentences29To35 {
         long[] items = {15, 1, 204, 0, 85, 1, 255, 0, 1, 0, 50, 1};
         for (int day = 0; day < 4; day++) {
             for (int taster = 0; taster < 4; taster++) {
-                NewsCow x = row("13922517;p1,d3,o2,s9", items);
+                NewsCow x = Check.row("13922517;p1,d3,o2,s9", items);
                 for (int k = 0; k < day; k++) {
                     x.answer(0, 1, 1);
                 }
@@ -68,7 +60,7 @@ final class Sentences29To35 {
                 }
             }
         }
-        NewsCow x = row("13922517;p1,d3,o2,s9", items);
+        NewsCow x = Check.row("13922517;p1,d3,o2,s9", items);
         due("from item 2 on", x.fits(0, 0, 2, 2, 2, 0), fitting(x, 0, 0, 204, 0, 85, 1));
         due("from item 8 on", x.fits(0, 0, 2, 8, 2, 1), fitting(x, 0, 1, 1, 0, 50, 1));
     }
@@ -105,7 +97,7 @@ final class Sentences29To35 {
 
     /** Four cows, and taster 1 of a kind, on a day. */
     private static NewsCow tasted(long[] items, int day, int kind, int fine) {
-        NewsCow x = row("1139;p1", items);
+        NewsCow x = Check.row("1139;p1", items);
         x.taster(kind, fine);
         for (int k = 0; k < day; k++) {
             x.answer(0, 15, 1);
@@ -120,7 +112,7 @@ final class Sentences29To35 {
         "how likely it is a cow then, of those that it MAY BE, each as likely as it gives MILK ahead of the row: a fraction"})
     static void promise30ByMilkAndByEachAnswer() {
         // of cows 0, 1, 2 (3, 1, 2): the first answer is right by 0 and 1, the second by 1 and 2, the third by 1
-        NewsCow x = row("3124;p1", 3, 1, 6, 1, 2, 1);
+        NewsCow x = Check.row("3124;p1", 3, 1, 6, 1, 2, 1);
         x.answer(0, 7, 1);
         slips("none slips: she alone", x, 1, 0, 3, 1, 1);
         slips("none slips: not she", x, 0, 0, 3, 0, 1);
@@ -222,7 +214,7 @@ final class Sentences29To35 {
             for (int i = 0; i <= 6; i++) {
                 for (int j = 0; j <= 6; j++) {
                     int n = 6 - Math.max(i, j);
-                    NewsCow x = row("11111111;p1", 1, 2, 4, 8, 16, 32);
+                    NewsCow x = Check.row("11111111;p1", 1, 2, 4, 8, 16, 32);
                     x.sheet(1, 2, 6);
                     Check.items(x, 1, 2, 64, 128, 3, 5, 6, 7);
                     int[] wants = (to == 0 ? ones : others).clone();

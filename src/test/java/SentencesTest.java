@@ -6,7 +6,7 @@ import java.util.List;
 public final class SentencesTest {
     private static final Class<?>[] EDGES = {Edges01To10.class, Edges11To17.class, Edges18To28.class, Edges29To35.class};
     private static final Class<?>[] SENTENCES = {
-        Sentences01To10.class, Sentences11To17.class, Sentences18To28.class, Sentences29To35.class};
+        Sentences01To10.class, Sentences11To17.class, Sentences18To28.class, Sentences29To35.class, Changes.class};
     /** Which call stands below which heading. */
     private static final String[] HEADINGS = {
         "==== 1", "==== 2", "==== 3",
