@@ -22,7 +22,7 @@ public final class RoomTest {
 
     private static void play(NewsCow x) {
         herd(x);
-        for (int round = 0; round < 20; round++) {
+        for (int round = 0; round < 14; round++) {
             for (int taster = 0; taster < 4; taster++) {
                 x.fewest(taster);
                 x.next(taster);
